@@ -540,7 +540,6 @@ public final class GramFinder {
     void clear() {
       many = 0;
       setMany = 0;
-      Arrays.fill(bits, 0L);
     }
 
     int root() {
@@ -636,12 +635,25 @@ public final class GramFinder {
         return NONE;
       }
       setMany++;
+      Arrays.fill(bits, 4 * set, 4 * set + 4, 0L);
       return set;
     }
 
     boolean contains(int set, int sign) {
       int word = wordOf(set, sign);
       return word != NONE && (bits[word] >>> (sign & 63) & 1L) != 0;
+    }
+
+    /** The least byte of the set from this one on. */
+    int nextIn(int set, int from) {
+      for (int sign = Math.max(0, from); sign < 256; sign = (sign | 63) + 1) {
+        int word = wordOf(set, sign);
+        long rest = word == NONE ? 0L : bits[word] >>> (sign & 63);
+        if (rest != 0) {
+          return sign + Long.numberOfTrailingZeros(rest);
+        }
+      }
+      return NO_BYTE;
     }
 
     void include(int set, int sign) {
@@ -1551,12 +1563,14 @@ public final class GramFinder {
 
     private void workBytes(int set, Part part) {
       products.clear();
-      for (int sign = 0; sign < 256; sign++) {
+      int sign = tree.nextIn(set, 0);
+      for (int turn = 0; turn <= MAX_TEXTS && sign != NO_BYTE; turn++) {
         text[0] = (byte) sign;
-        if (tree.contains(set, sign) && !products.put(text, 1)) {
+        if (!products.put(text, 1)) {
           becomeShut(part);
           return;
         }
+        sign = tree.nextIn(set, sign + 1);
       }
       part.becomeExact(products);
     }
