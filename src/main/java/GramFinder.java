@@ -128,8 +128,16 @@ public final class GramFinder {
     planner.plan();
     machine.build();
     report.begin(parser.tree.sizeOf(parser.tree.root()));
+    Family want = planner.whole().want;
     for (int f = 0; f < shelf.came; f++) {
-      lookInto(f);
+      Entry entry = shelf.find(f);
+      if (entry != null && want.isMetBy(entry.grams)) {
+        report.noteOpened(f);
+        machine.seek(entry.bytes);
+        if (machine.begin != NONE) {
+          report.noteHit(f, machine.begin, machine.finish, entry.lineOf(machine.begin));
+        }
+      }
     }
     return report.hitMany;
   }
@@ -232,18 +240,6 @@ public final class GramFinder {
     }
   }
 
-  private void lookInto(int f) {
-    Entry entry = shelf.find(f);
-    if (entry == null || !planner.whole().want.isMetBy(entry.grams)) {
-      return;
-    }
-    report.noteOpened(f);
-    machine.seek(entry.bytes);
-    if (machine.begin != NONE) {
-      report.noteHit(f, machine.begin, machine.finish, entry.lineOf(machine.begin));
-    }
-  }
-
   private static int byteOf(byte[] bytes, int i) {
     return i >= 0 && i < bytes.length ? bytes[i] & 255 : NO_BYTE;
   }
@@ -267,7 +263,7 @@ public final class GramFinder {
   }
 
   private static boolean isWord(int sign) {
-    return isLetter(sign) || isDigit(sign) || sign == '_';
+    return sign >= 'a' && sign <= 'z' || sign >= 'A' && sign <= 'Z' || sign >= '0' && sign <= '9' || sign == '_';
   }
 
   private static boolean isSpace(int sign) {
@@ -336,7 +332,7 @@ public final class GramFinder {
     void copyFrom(Row other) {
       makeRoom(other.many);
       many = 0;
-      if (other.many <= items.length && other.many <= other.items.length) {
+      if (other.many >= 0 && other.many <= items.length && other.many <= other.items.length) {
         System.arraycopy(other.items, 0, items, 0, other.many);
         many = other.many;
       }
@@ -393,7 +389,7 @@ public final class GramFinder {
       int high = many;
       for (int turn = 0; turn < 32 && low < high; turn++) {
         int middle = (low + high) >>> 1;
-        if (at(middle) < item) {
+        if (middle < items.length && items[middle] < item) {
           low = middle + 1;
         } else {
           high = middle;
@@ -1241,7 +1237,11 @@ public final class GramFinder {
         }
       }
       many = kept;
-      append(set, mark);
+      if (many >= 0 && many < rows.length && many < marks.length) {
+        row(many).copyFrom(set);
+        marks[many] = mark;
+        many++;
+      }
     }
 
     void offerAll(Family other) {
@@ -1252,8 +1252,10 @@ public final class GramFinder {
 
     void copyFrom(Family other) {
       many = 0;
-      for (int i = 0; i < other.many; i++) {
-        append(other.row(i), other.markOf(i));
+      for (int i = 0; i < other.many && i < rows.length && i < marks.length; i++) {
+        row(i).copyFrom(other.row(i));
+        marks[i] = other.markOf(i);
+        many++;
       }
     }
 
@@ -1305,14 +1307,6 @@ public final class GramFinder {
       return i >= 0 && i < marks.length ? marks[i] : 0L;
     }
 
-    private void append(Row set, long mark) {
-      if (many >= 0 && many < rows.length && many < marks.length) {
-        row(many).copyFrom(set);
-        marks[many] = mark;
-        many++;
-      }
-    }
-
     private void swap(int i, int k) {
       boolean inside = i >= 0 && i < rows.length && k >= 0 && k < rows.length;
       if (i != k && inside && i < marks.length && k < marks.length) {
@@ -1337,11 +1331,11 @@ public final class GramFinder {
     }
 
     int lengthOf(int i) {
-      return i >= 0 && i < many ? Math.max(0, pick(lengths, i)) : 0;
+      return i >= 0 && i < many && i < lengths.length ? lengths[i] : 0;
     }
 
     int signAt(int i, int k) {
-      return i >= 0 && i < many && i < rows.length && k < lengthOf(i) ? byteOf(rows[i], k) : NONE;
+      return i >= 0 && i < rows.length && k < lengthOf(i) ? byteOf(rows[i], k) : NONE;
     }
 
     /** False, if the text is new and there is no room for it. */
@@ -1376,9 +1370,9 @@ public final class GramFinder {
 
     void copyFrom(Texts other) {
       many = 0;
-      for (int i = 0; i < other.many && i < rows.length; i++) {
+      for (int i = 0; i < other.many && i < rows.length && i < lengths.length; i++) {
+        lengths[i] = other.copyTo(i, rows[i], 0);
         many++;
-        store(lengths, i, other.copyTo(i, rows[i], 0));
       }
     }
 
@@ -1663,7 +1657,8 @@ public final class GramFinder {
       for (int i = 0; i < texts.many; i++) {
         offerGrams(texts, i);
       }
-      leastInto(part.want);
+      // So few texts never tell too many choices.
+      part.want.copyFrom(product);
       part.unfolded = true;
     }
 

@@ -29,6 +29,10 @@ final class RegexMaker {
     return text.toString();
   }
 
+  private static String oneOf(Random random, String... all) {
+    return all[random.nextInt(all.length)];
+  }
+
   private static String word(Random random, String signs, int length) {
     StringBuilder word = new StringBuilder();
     for (int i = 0; i < length; i++) {
@@ -57,7 +61,7 @@ final class RegexMaker {
         }
       }
       regex.append(')');
-      regex.append(new String[] {"", "", "", "+", "?", "{2}", "{0,2}", "{3}", ".*", ".", "[a-d]"}[random.nextInt(11)]);
+      regex.append(oneOf(random, "", "", "", "+", "?", "{2}", "{0,2}", "{3}", ".*", ".", "[a-d]"));
     }
     return regex.toString();
   }
@@ -112,9 +116,9 @@ final class RegexMaker {
   private static String atom(Random random, String signs, int depth) {
     switch (random.nextInt(depth > 0 ? 16 : 11)) {
       case 0:
-        return new String[] {".", "^", "$", "\\b"}[random.nextInt(4)];
+        return oneOf(random, ".", "^", "$", "\\b");
       case 1:
-        return new String[] {"\\n", "\\t", "\\d", "\\w", "\\s", "\\-", "\\.", "\\_", "\\ ", "\\\\"}[random.nextInt(10)];
+        return oneOf(random, "\\n", "\\t", "\\d", "\\w", "\\s", "\\-", "\\.", "\\_", "\\ ", "\\\\");
       case 2:
       case 3:
         return bracket(random, signs);
@@ -131,15 +135,15 @@ final class RegexMaker {
     for (int i = 0; i < pieces; i++) {
       int kind = random.nextInt(12);
       if (kind == 0) {
-        regex.append(new String[] {"\\d", "\\w", "\\s"}[random.nextInt(3)]);
+        regex.append(oneOf(random, "\\d", "\\w", "\\s"));
       } else if (kind == 1) {
-        regex.append(new String[] {"\\n", "\\t", "\\-", "\\]", "\\^", "\\\\", "[", "(", ".", "$", "}"}[random.nextInt(11)]);
+        regex.append(oneOf(random, "\\n", "\\t", "\\-", "\\]", "\\^", "\\\\", "[", "(", ".", "$", "}"));
       } else if (kind == 2) {
         char low = (char) (32 + random.nextInt(95));
         char high = (char) (low + random.nextInt(Math.min(127 - low, 14)));
         regex.append(one(low)).append('-').append(one(high));
       } else if (kind == 3) {
-        regex.append(new String[] {"a-c", "a-h", "a-l", "a-m", "a-n", "A-z", "0-9", "\\t-\\n", " -~"}[random.nextInt(9)]);
+        regex.append(oneOf(random, "a-c", "a-h", "a-l", "a-m", "a-n", "A-z", "0-9", "\\t-\\n", " -~"));
       } else {
         regex.append(one(signs.charAt(random.nextInt(signs.length()))));
       }
@@ -164,8 +168,8 @@ final class RegexMaker {
           changed.insert(place, c);
           break;
         case 1:
-          changed.insert(place, new String[] {"{2", "{2,1}", "{21", "{5,3", "{15,1", "[b-a", "[z-\\", "{123}", "{201}",
-              "{3,123}", "{,2}", "{}", "[a-\\d]", "[\\d-z]", "[^]", "[^-", "((", "()", "(|)", "[a-]"}[random.nextInt(20)]);
+          changed.insert(place, oneOf(random, "{2", "{2,1}", "{21", "{5,3", "{15,1", "[b-a", "[z-\\", "{123}", "{201}",
+              "{3,123}", "{,2}", "{}", "[a-\\d]", "[\\d-z]", "[^]", "[^-", "((", "()", "(|)", "[a-]"));
           break;
         case 2:
           if (place < changed.length()) {
@@ -184,7 +188,7 @@ final class RegexMaker {
     StringBuilder nested = new StringBuilder(regex.length() > 40 ? regex.substring(0, 40) : regex);
     int times = 8 + random.nextInt(5);
     for (int i = 0; i < times; i++) {
-      nested.insert(0, '(').append(')').append(new String[] {"", "", "", "*", "?", "+", "{0}", "{2}"}[random.nextInt(8)]);
+      nested.insert(0, '(').append(')').append(oneOf(random, "", "", "", "*", "?", "+", "{0}", "{2}"));
     }
     return nested.toString();
   }
