@@ -126,6 +126,7 @@ public final class FaultsTest {
     Check.dueFault(x, "[a-\\", FORM, 4);
     Check.dueFault(x, "[\\b]", FORM, 2);
     Check.dueFault(x, "[\\", FORM, 2);
+    Check.dueFault(x, "[\\d", FORM, 3);
     Check.dueFault(x, "[a\n]", FORM, 2);
   }
 

@@ -141,6 +141,8 @@ public final class MatchTest {
     dueHit("xababab", "(ab){0,2}x", 0, 1);
     dueHit("aaaaaaaaaaaaaaaaaaaaa", "a{20}", 0, 20);
     dueHit("aab", "(a|ab)(b|c)?", 0, 1);
+    dueHit("x".repeat(80), "x".repeat(80), 0, 80);
+    dueHit("y" + "x".repeat(200), "(x{20}){10}", 1, 201);
     dueHit("abab", "(a|b){4}", 0, 4);
     dueHit("abcabc", "(abc){1,20}", 0, 6);
     dueNone("ab", "a{1,}b{2,}");

@@ -104,6 +104,12 @@ public final class WantTest {
   }
 
   private static void headsAndTails() {
+    due("ab|b", "<>", "<ab><b>", "<ab><b>", "<b>");
+    due("a|ab", "<>", "<a><ab>", "<a>", "<a><ab>");
+    due(".ab|.b", "<>", "", "<>", "<b>");
+    due(".a|.ab", "<>", "", "<>", "<a><ab>");
+    due("ab.|b.", "<>", "", "<ab><b>", "<>");
+    due("a.|ab.", "<>", "", "<a>", "<>");
     due("(abc|a).", "<>", "", "<a>", "<>");
     due(".(abc|c)", "<>", "", "<>", "<c>");
     due("(abc|bcd|d).", "<>", "", "<ab><bc><d>", "<>");
@@ -125,6 +131,8 @@ public final class WantTest {
     due("[a-f]xx.[a-e]yy", "<ayy><byy><cyy><dyy><eyy>", "", "<ax><bx><cx><dx><ex><fx>", "<yy>");
     due("[a-e]xx.[a-e]yyy", "<axx yyy><bxx yyy><cxx yyy><dxx yyy><exx yyy>", "",
         "<ax><bx><cx><dx><ex>", "<yy>");
+    due("[b-f]xx.[b-g]yyaaa", "<aaa bxx yaa yya><aaa cxx yaa yya><aaa dxx yaa yya><aaa exx yaa yya><aaa fxx yaa yya>",
+        "", "<bx><cx><dx><ex><fx>", "<aa>");
     due("[a-f]xxx.[a-e]yy", "<ayy xxx><byy xxx><cyy xxx><dyy xxx><eyy xxx>", "",
         "<ax><bx><cx><dx><ex><fx>", "<yy>");
   }
@@ -152,6 +160,7 @@ public final class WantTest {
     due("[a-h]xx.|[a-h]yy.|[a-h]zz.|kkk.", "<>", "", "<a><b><c><d><e><f><g><h><kk>", "<>");
     due("(kkk.)([a-h]xx.|[a-h]yy.|[a-h]zz.|lll.)", "<kkk>", "", "<kk>", "<>");
     due("kkk.[a-h]xx.|kkk.[a-h]yy.|kkk.[a-h]zz.", withWord("kkk", "abcdefgh", "xx", "yy", "zz"), "", "<kk>", "<>");
+    due("kkk.mmm|lll.|kkk.[a-h]xx.|kkk.[a-h]yy.|kkk.[a-h]zz.", "<>", "", "<kk><ll>", "<>");
     due("kkk.[a-h]xx.|kkk.[a-h]yy.|kkk.[a-h]zz.|kkk.lll", "<kkk>", "", "<kk>", "<>");
   }
 
