@@ -2,6 +2,10 @@ import java.nio.charset.StandardCharsets;
 
 /** What the tests share: a count of the wrong answers, and calls with texts instead of numbers. */
 final class Check {
+  /** Numbers that are no index, no byte and no gram; a few would be one if they wrapped around, times two or more. */
+  static final int[] WILD = {Integer.MIN_VALUE, Integer.MIN_VALUE + 1, -(1 << 30), -65536, -1000, -256, -40, -2, 1 << 24,
+      1 << 25, 1 << 28, 1 << 29, 1 << 30, 3 << 29, Integer.MAX_VALUE - 1, Integer.MAX_VALUE};
+
   private static int wrong;
   private static int checked;
 

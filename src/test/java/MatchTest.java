@@ -19,7 +19,7 @@ public final class MatchTest {
   }
 
   /** A file of these bytes has its hit from begin to end; begin NONE: it is none. */
-  private static void dueHit(String bytes, String regex, boolean fold, int begin, int end) {
+  static void dueHit(String bytes, String regex, boolean fold, int begin, int end) {
     GramFinder x = new GramFinder();
     Check.add(x, bytes);
     String call = regex + (fold ? " with fold" : "") + " in " + bytes.replace("\n", "\\n");
@@ -29,16 +29,16 @@ public final class MatchTest {
     Check.due("hit(0, 2) of " + call, x.hit(0, 2), end);
   }
 
-  private static void dueHit(String bytes, String regex, int begin, int end) {
+  static void dueHit(String bytes, String regex, int begin, int end) {
     dueHit(bytes, regex, false, begin, end);
   }
 
-  private static void dueNone(String bytes, String regex) {
+  static void dueNone(String bytes, String regex) {
     dueHit(bytes, regex, false, NONE, NONE);
   }
 
   /** Which of the 256 bytes the regex matches: as many as told, and those told. */
-  private static void dueBytes(String regex, boolean fold, int many, String some, String none) {
+  static void dueBytes(String regex, boolean fold, int many, String some, String none) {
     int matched = 0;
     for (int c = 0; c < 256; c++) {
       GramFinder x = new GramFinder();

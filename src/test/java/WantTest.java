@@ -20,7 +20,7 @@ public final class WantTest {
   }
 
   /** All that is told of a regex: its choices, its texts, its heads and tails, each in < >. */
-  private static void due(String regex, boolean fold, String choices, String texts, String heads, String tails) {
+  static void due(String regex, boolean fold, String choices, String texts, String heads, String tails) {
     GramFinder x = new GramFinder();
     String call = regex + (fold ? " with fold" : "");
     Check.due("search of " + call + " has no fault", Check.search(x, regex, fold), 0);
@@ -30,7 +30,7 @@ public final class WantTest {
     Check.dueText("tails of " + call, Check.textsOf(x, 2), tails);
   }
 
-  private static void due(String regex, String choices, String texts, String heads, String tails) {
+  static void due(String regex, String choices, String texts, String heads, String tails) {
     due(regex, false, choices, texts, heads, tails);
   }
 
