@@ -12,6 +12,7 @@ public final class RegexEdgesTest {
 
   public static void main(String[] args) {
     emptyRegex();
+    bytesOfTheTapeAlone();
     emptyCats();
     emptyGroup();
     atMostOneCount();
@@ -34,6 +35,7 @@ public final class RegexEdgesTest {
     numberAboveTwenty();
     ofThreeDigitsTheFirstTwo();
     tenOpenAtOnce();
+    tenOpenWithAllElse();
     parensThatOpenNothing();
     firstByItsPlace();
     ofOnePlaceTheLeast();
@@ -64,6 +66,44 @@ public final class RegexEdgesTest {
   private static void emptyRegex() {
     dueSize("", 0);
     Check.due("search with a tape that was never fed", new GramFinder().search(true), 0);
+  }
+
+  /** .. with the TAPE's BYTES as REGEX: its first n BYTES alone, whatever stood behind them ahead of end(n). */
+  private static void bytesOfTheTapeAlone() {
+    dueCut("a*", 1, 0, 1);
+    dueCut("a{2}", 1, 0, 1);
+    dueCut("ab|c", 2, 0, 2);
+    dueCut("a)", 1, 0, 1);
+    dueCut("a\\", 1, 0, 1);
+    dueCut("a" + "(".repeat(11), 1, 0, 1);
+    dueCut("a".repeat(81), 80, 0, 80);
+    dueCut("(a)", 2, FORM, 2);
+    dueCut("[ab]", 2, FORM, 2);
+    dueCut("[ab]", 1, FORM, 1);
+    dueCut("[^a]", 2, FORM, 2);
+    dueCut("[a-b]", 3, FORM, 3);
+    dueCut("[\\d]", 2, FORM, 2);
+    dueCut("[\\d]", 3, FORM, 3);
+    dueCut("[a-\\n]", 4, FORM, 4);
+    dueCut("\\d", 1, FORM, 1);
+    dueCut("a{2}", 2, FORM, 2);
+    dueCut("a{2}", 3, FORM, 3);
+    dueCut("a{2,3}", 4, FORM, 4);
+    dueCut("a{2,3}", 5, FORM, 5);
+    dueCut("a{12,15}", 6, ORDER, 5);
+    dueCut("a{20}", 3, FORM, 3);
+  }
+
+  /** The first bytes of a tape: their fault and its place, or their size. */
+  private static void dueCut(String tape, int n, int fault, int placeOrSize) {
+    GramFinder x = new GramFinder();
+    Check.write(x, tape);
+    x.end(n);
+    String call = "search of the first " + n + " bytes of " + tape;
+    Check.due(call, x.search(false), fault == 0 ? 0 : NONE);
+    Check.due("fault(0) behind " + call, x.fault(0), fault);
+    Check.due("fault(1) behind " + call, x.fault(1), fault == 0 ? NONE : placeOrSize);
+    Check.due("count(9) behind " + call, x.count(9), fault == 0 ? placeOrSize : 0);
   }
 
   /** ALT: CAT { '|' CAT }: each of them may be of none. */
@@ -390,6 +430,31 @@ public final class RegexEdgesTest {
     dueFault(TEN_OPEN + "a|b(", MUCH, 13);
     dueFault("ab" + TEN_OPEN + "c*(", MUCH, 14);
     dueFault(TEN_OPEN, FORM, 10);
+  }
+
+  /** Ten that are open, each with an ALT, a CAT and a COUNT: what stands inside is still known. */
+  private static void tenOpenWithAllElse() {
+    for (String count : new String[] {"", "+", "{1}"}) {
+      String regex = "x|(".repeat(10) + "x|b" + (")" + count).repeat(10);
+      GramFinder x = new GramFinder();
+      Check.add(x, "aabc");
+      Check.due("search(" + regex + ")", Check.search(x, regex, false), 1);
+      Check.due("its begin", x.hit(0, 1), 2);
+      Check.due("its end", x.hit(0, 2), 3);
+      Check.dueText("its heads", Check.textsOf(x, 1), "<b><x>");
+      Check.dueText("its tails", Check.textsOf(x, 2), "<b><x>");
+    }
+    GramFinder x = new GramFinder();
+    Check.add(x, "yybccc");
+    String regex = "x|y(".repeat(10) + "x|bc+" + ")?".repeat(10);
+    Check.due("search(" + regex + ")", Check.search(x, regex, false), 1);
+    Check.due("its begin", x.hit(0, 1), 0);
+    Check.due("its end", x.hit(0, 2), 2);
+    String deep = "x|(".repeat(10) + "x|bc+" + "){1}".repeat(10);
+    Check.due("search(" + deep + ")", Check.search(x, deep, false), 1);
+    Check.due("its begin", x.hit(0, 1), 2);
+    Check.due("its end", x.hit(0, 2), 6);
+    Check.dueText("its heads", Check.textsOf(x, 1), "<bc><x>");
   }
 
   /** .. that is open: what is closed, escaped or a ONE is none. */

@@ -8,6 +8,7 @@ public final class ToldEdgesTest {
     noneIsMinusOne();
     searchAnswersItsHits();
     searchWithFoldOrWithout();
+    searchAgainAndAgain();
     choicesHowMany();
     choicesOfTwentyFour();
     choicesInOrder();
@@ -74,6 +75,30 @@ public final class ToldEdgesTest {
     Check.due("without again", Check.search(x, "aBc", false), 1);
     Check.due("opened(0) without", x.opened(0), 0);
     Check.due("texts(0) without", x.texts(0), 1);
+  }
+
+  /** Any search answers as that of a new object would: as many as 512 calls leave room for. */
+  private static void searchAgainAndAgain() {
+    String[] regexes = {"(a{19}b){9}c{16}|[abc][^abc]\\w", "[a-c][d-f][g-i][j-l][m-o][p-r][s-u]\\w[^ ][0-9]*|x",
+        "a|b|c|d|e|f|g|h|i|j|k|l|m|n|o|p", "(a|b|(c|d|(e|f|(g|h|(i|j|k+)+)+)+)+)+", "abc(", "x"};
+    String file = "abcdefghijklm adgjmpsx0123 x";
+    GramFinder used = new GramFinder();
+    Check.add(used, file);
+    int calls = 10;
+    for (int i = 0; calls < 480; i++) {
+      String regex = regexes[i % regexes.length];
+      GramFinder fresh = new GramFinder();
+      Check.add(fresh, file);
+      Check.due("search " + i, Check.search(used, regex, false), Check.search(fresh, regex, false));
+      Check.due("fault behind search " + i, used.fault(1), fresh.fault(1));
+      if (fresh.fault(0) == 0) {
+        Check.due("begin behind search " + i, used.hit(0, 1), fresh.hit(0, 1));
+        Check.due("end behind search " + i, used.hit(0, 2), fresh.hit(0, 2));
+        Check.due("heads behind search " + i, used.texts(1), fresh.texts(1));
+        Check.due("size behind search " + i, used.count(9), fresh.count(9));
+      }
+      calls += 3 + (regex.length() + 19) / 20 + 8;
+    }
   }
 
   // ---- promises 14 and 15
@@ -282,10 +307,12 @@ public final class ToldEdgesTest {
     Check.search(x, "abc|d|", false);
     for (int what = 0; what <= 2; what++) {
       int many = x.texts(what);
-      Check.due("text(" + what + ", -1, 0)", x.text(what, -1, 0), NONE);
+      for (int k = -1; k <= 2; k++) {
+        Check.due("text(" + what + ", -1, " + k + ")", x.text(what, -1, k), NONE);
+        Check.due("text(" + what + ", their number, " + k + ")", x.text(what, many, k), NONE);
+      }
       Check.due("text(" + what + ", 0, -1)", x.text(what, 0, -1), NONE);
       Check.due("text(" + what + ", 0, 0): it has no bytes", x.text(what, 0, 0), NONE);
-      Check.due("text(" + what + ", their number, 0)", x.text(what, many, 0), NONE);
       for (int n : Check.WILD) {
         Check.due("text(" + what + ", " + n + ", 0)", x.text(what, n, 0), NONE);
         Check.due("text(" + what + ", 0, " + n + ")", x.text(what, 0, n), NONE);

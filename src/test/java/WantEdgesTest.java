@@ -20,6 +20,7 @@ public final class WantEdgesTest {
     bothByCoreOfTheSecond();
     bothByCoreOfTheFirst();
     bothByCoreIsLeast();
+    coreOfThese();
     headsOfFewerBytes();
     headsOfBeginnings();
     headsOfTwelve();
@@ -225,6 +226,23 @@ public final class WantEdgesTest {
         "<>");
   }
 
+  /** The CORE of some CHOICES are the GRAMS that all of them have: of these ones, of no earlier ones. */
+  private static void coreOfThese() {
+    String many = ".[a-h]xx.|kkk.[a-h]yy.|kkk.[a-h]zz.|kkk.ixx.";
+    due("(kkk" + many + ")|mmm.", "<kkk><mmm>", "", "<kk><mm>", "<>");
+    due("kkk.[a-h]xx.|kkk.zz[a-h]yy.|kkk.[a-h]zz.|kkk.ixx.", "<kkk>", "", "<kk>", "<>");
+    due("zzz.axx.|zzz.bcdefg.|zzz.[a-h]vv.|zzz.[a-h]ww.|zzz.[a-h]uu.", "<zzz>", "", "<zz>", "<>");
+    due("zzz.bcdefg.|zzz.axx.|zzz.[a-h]vv.|zzz.[a-h]ww.|zzz.[a-h]uu.", "<zzz>", "", "<zz>", "<>");
+    GramFinder x = new GramFinder();
+    String[] regexes = {"kkk" + many, "[a-h]xx.|[a-h]yy.|[a-h]zz.|ixx.", "[a-e]xx.[a-e]yyy", "[a-e]xx.[a-e]yy",
+        "kkk" + many};
+    String[] choices = {"<kkk>", "<>", each("abcde", "xx yyy"), each("abcde", "xx"), "<kkk>"};
+    for (int i = 0; i < regexes.length; i++) {
+      Check.search(x, regexes[i], false);
+      Check.dueText("choices of " + regexes[i], Check.choicesOf(x), choices[i]);
+    }
+  }
+
   // ---- HEADS, TAILS
 
   /** the first two BYTES of each (all, if it has fewer). */
@@ -255,6 +273,7 @@ public final class WantEdgesTest {
   private static void headsByTheFirstByte() {
     due("[a-f]x.|[a-f]y.|az.", "<>", "", "<a><b><c><d><e><f>", "<>");
     due("[a-h]x.|[d-h]y.", "<>", "", "<a><b><c><d><e><f><g><h>", "<>");
+    due("[a-f]x.|[a-f]y.|z.", "<>", "", "<a><b><c><d><e><f><z>", "<>");
   }
 
   /** if these are more than 12: not at 12. */
@@ -297,6 +316,7 @@ public final class WantEdgesTest {
   private static void tailsByTheLastByte() {
     due(".x[a-f]|.y[a-f]|.za", "<>", "", "<>", "<a><b><c><d><e><f>");
     due(".x[a-h]|.y[d-h]", "<>", "", "<>", "<a><b><c><d><e><f><g><h>");
+    due(".x[a-f]|.y[a-f]|.z", "<>", "", "<>", "<a><b><c><d><e><f><z>");
   }
 
   /** .. at 12 last BYTES. */
