@@ -82,13 +82,16 @@ final class Check {
     due("count(9) of " + regex, finder.count(9), size);
   }
 
-  /** What is told of the texts, as one text: each in < >. */
+  /** What is told of the texts, as one text: each in < >. With as few calls as may be: an object has 512. */
   static String textsOf(GramFinder finder, int what) {
     StringBuilder all = new StringBuilder();
-    for (int i = 0; i < finder.texts(what); i++) {
+    int many = finder.texts(what);
+    for (int i = 0; i < many; i++) {
       all.append('<');
-      for (int k = 0; finder.text(what, i, k) != GramFinder.NONE; k++) {
-        all.append((char) finder.text(what, i, k));
+      int k = 0;
+      for (int sign = finder.text(what, i, 0); sign != GramFinder.NONE; sign = finder.text(what, i, k)) {
+        all.append((char) sign);
+        k++;
       }
       all.append('>');
     }
@@ -98,9 +101,11 @@ final class Check {
   /** What is told of the choices, as one text: each in < >, its grams as three characters. */
   static String choicesOf(GramFinder finder) {
     StringBuilder all = new StringBuilder();
-    for (int i = 0; i < finder.choice(GramFinder.NONE); i++) {
+    int many = finder.choice(GramFinder.NONE);
+    for (int i = 0; i < many; i++) {
       all.append('<');
-      for (int k = 0; k < finder.choice(i); k++) {
+      int grams = finder.choice(i);
+      for (int k = 0; k < grams; k++) {
         int gram = finder.gram(i, k);
         all.append(k == 0 ? "" : " ").append((char) (gram >> 16)).append((char) (gram >> 8 & 255));
         all.append((char) (gram & 255));
